@@ -360,7 +360,8 @@ public final class StubBench {
 
     // ---- extremes ----------------------------------------------------------------------------
 
-    public long extreme(int mark, boolean second, boolean lower) throws IndexOutOfBoundsException, IllegalStateException {
+    public long extreme(int mark, boolean second, boolean lower)
+            throws IndexOutOfBoundsException, IllegalStateException {
         needMark(mark);
         needPoint(mark);
         if (point.isOne() || !point.tellExtreme(second, answer)) {
@@ -395,7 +396,7 @@ public final class StubBench {
         needWhat(what, 4);
         needReach(m, Tangents.MOST);
         needRoomForTwo();
-        int many = findExact(m, k);
+        int many = findMatches(m, k);
         if (k == NONE) {
             return many;
         }
@@ -935,7 +936,7 @@ public final class StubBench {
     }
 
     // How many there are; the k-th of them is left in found.
-    private int findExact(int m, int k) {
+    private int findMatches(int m, int k) {
         int many = 0;
         look(chain, chain.size, start);
         for (int i = 0; i < Tangents.COUNT; i++) {
@@ -943,7 +944,7 @@ public final class StubBench {
                 trial.take(start);
                 trial.passLine(tangents.upperAt(i), tangents.lowerAt(i));
                 if (isMatchedByStub(trial, m)) {
-                    noteExact(i, k - many);
+                    noteMatch(i, k - many);
                     many += 2;
                 }
             }
@@ -962,7 +963,7 @@ public final class StubBench {
     }
 
     // An OPEN stub has s as its TANGENT, a SHUT one -1 by s: that one of them which is not below 0 is the shorter.
-    private void noteExact(int line, int which) {
+    private void noteMatch(int line, int which) {
         if (which != 0 && which != 1) {
             return;
         }
@@ -1434,7 +1435,7 @@ public final class StubBench {
             return root;
         }
 
-        // Of fractions 0 or above, by their whole parts and then the reverses of what is left: products could be too big.
+        // Of fractions 0 or above, by whole parts and then the reverses of what is left: products could be too big.
         static int compare(long a, long b, long c, long d) {
             int turn = 1;
             for (int i = 0; i < 100; i++) {
