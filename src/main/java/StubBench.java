@@ -529,10 +529,7 @@ public final class StubBench {
     }
 
     public int rank(int k) {
-        for (int i = 0; i < SHELVES; i++) {
-            shelves[i].wide = wideOf(shelves[i].kept);
-            shelves[i].span.measure(shelves[i].kept);
-        }
+        measureShelves();
         for (int i = 0; i < SHELVES; i++) {
             if (shelves[i].full && shelvesAheadOf(i) == k) {
                 return i;
@@ -803,6 +800,15 @@ public final class StubBench {
     private boolean isWithinBeside(Chain c, int j) {
         lookBeside(c, j);
         return isWaveWithin();
+    }
+
+    private void measureShelves() {
+        for (int i = 0; i < SHELVES; i++) {
+            if (shelves[i].full) {
+                shelves[i].wide = wideOf(shelves[i].kept);
+                shelves[i].span.measure(shelves[i].kept);
+            }
+        }
     }
 
     private int shelvesAheadOf(int shelf) {
