@@ -1093,10 +1093,11 @@ public final class StubBench {
             order[i] = i;
         }
         // 24 rows are all there are of 4 ELEMENTS.
+        int size = Math.min(chain.size, order.length);
         boolean more = true;
         for (int row = 0; row < 24 && more; row++) {
             tryOrder();
-            more = stepOrder(chain.size);
+            more = stepOrder(size);
         }
     }
 
@@ -1111,7 +1112,7 @@ public final class StubBench {
         }
     }
 
-    // To the next row of the first numbers; false behind the last one.
+    // To the next row of the first numbers, no more than there are in order; false behind the last one.
     private boolean stepOrder(int size) {
         int at = size - 2;
         while (at >= 0 && order[at] > order[at + 1]) {

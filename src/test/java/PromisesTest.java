@@ -7,30 +7,19 @@ import java.util.HashSet;
 import java.util.Set;
 
 /**
- * The runs of src/test/runs/promises.txt, each on a new StubBench: a row there is a call and its answer. It also looks
- * whether every promise has a run, and every call with each exception that its promise names.
+ * The runs of src/test/runs, each on a new StubBench: a row there is a call and its answer. It also looks whether every
+ * promise has a run in each file, and every call is met with each exception that its promise names.
  */
 public final class PromisesTest {
     private static final int PROMISES = 54;
+    private static final String[] FILES = {"promises.txt", "edges.txt"};
 
     private static int wrong = 0;
 
     public static void main(String[] args) throws Exception {
-        Set<Integer> promises = new HashSet<>();
         Set<String> met = new HashSet<>();
-        StubBench bench = null;
-        String run = "";
-        for (String row : Files.readAllLines(Path.of("src/test/runs/promises.txt"))) {
-            if (row.startsWith("# promise ")) {
-                bench = new StubBench();
-                run = row.substring(2);
-                promises.add(Integer.parseInt(row.substring(10, row.indexOf(':'))));
-            } else if (!row.isBlank()) {
-                answer(bench, run, row, met);
-            }
-        }
-        for (int i = 1; i <= PROMISES; i++) {
-            due(promises.contains(i), "promise " + i + " has no run");
+        for (String file : FILES) {
+            play(Path.of("src/test/runs", file), met);
         }
         for (Method method : StubBench.class.getDeclaredMethods()) {
             if (Modifier.isPublic(method.getModifiers())) {
@@ -45,6 +34,24 @@ public final class PromisesTest {
         System.out.println(wrong == 0 ? "all promises hold" : wrong + " rows are wrong");
         if (wrong != 0) {
             System.exit(1);
+        }
+    }
+
+    private static void play(Path file, Set<String> met) throws Exception {
+        Set<Integer> promises = new HashSet<>();
+        StubBench bench = null;
+        String run = "";
+        for (String row : Files.readAllLines(file)) {
+            if (row.startsWith("# promise ")) {
+                bench = new StubBench();
+                run = row.substring(2);
+                promises.add(Integer.parseInt(row.substring(10, row.indexOf(':'))));
+            } else if (!row.isBlank()) {
+                answer(bench, run, row, met);
+            }
+        }
+        for (int i = 1; i <= PROMISES; i++) {
+            due(promises.contains(i), "promise " + i + " has no run in " + file);
         }
     }
 
