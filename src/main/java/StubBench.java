@@ -1482,7 +1482,7 @@ public final class StubBench {
             return p >= 0 ? 0 : 2;
         }
 
-        // ECHO's numbers stay below 10 to the 15, so 10,000 times them is no more than a long.
+        // ECHO's numbers at MARKS stay below 6 times 10 to the 14, so 10,000 times them is no more than a long.
         static int inTenThousandths(long upper, long lower) {
             return lower == 0 ? 0 : (int) (10000 * upper / lower);
         }

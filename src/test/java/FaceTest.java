@@ -34,6 +34,11 @@ public final class FaceTest {
             + "|java/lang/(Integer|Long|Math)\\.(?!\\w*Exact)\\w+|java/lang/System\\.arraycopy"
             + "|java/util/Arrays\\.(copyOf|copyOfRange|fill)|java/lang/Enum\\.(valueOf|ordinal)";
 
+    // What the machine throws, and what stands above it: none of these is ever caught.
+    private static final String OF_THE_MACHINE = "catch \\([^)]*\\b(Throwable|Exception|RuntimeException|Error"
+            + "|(Array|String)?IndexOutOfBoundsException|NullPointerException|ArithmeticException|ClassCastException"
+            + "|NegativeArraySizeException|ArrayStoreException)\\b";
+
     private static int wrong = 0;
 
     public static void main(String[] args) throws Exception {
@@ -124,7 +129,7 @@ public final class FaceTest {
         }
     }
 
-    // ---- rules 3 to 11, in the text
+    // ---- rules 1 to 11, in the text
 
     private static void text() throws Exception {
         String text = Files.readString(Path.of("src/main/java/StubBench.java"));
@@ -132,6 +137,7 @@ public final class FaceTest {
             "Exact(", "package ", "static {", "volatile ", "printStackTrace", "import static"}) {
             due(!text.contains(word), "the text has " + word);
         }
+        due(!Pattern.compile(OF_THE_MACHINE).matcher(text).find(), "the text catches what the machine throws");
         Matcher imports = Pattern.compile("(?m)^import (.*);").matcher(text);
         while (imports.find()) {
             due(imports.group(1).startsWith("java.util."), "the text has import " + imports.group(1));
@@ -147,7 +153,7 @@ public final class FaceTest {
         }
     }
 
-    // ---- rules 4, 8, 11, in the class
+    // ---- rules 4, 8, 11, 12, in the class
 
     private static void code() throws Exception {
         Map<String, Set<String>> calls = new HashMap<>();
@@ -171,10 +177,15 @@ public final class FaceTest {
                 "-c", "-p", "-cp", path, name);
         String method = "";
         Pattern head = Pattern.compile("^  .*?([\\w$]+)\\(.*\\).*;$");
+        Pattern making = Pattern.compile("^ +\\d+: (new|\\w*newarray) +(?:#\\d+.*// class )?(\\S+)");
         Pattern call = Pattern.compile("(?:Interface)?Method (?:([\\w/$]+)\\.)?(\"<init>\"|\\w+):");
         for (String row : out.toString().split("\n")) {
             Matcher begins = head.matcher(row);
             Matcher calling = call.matcher(row);
+            Matcher makes = making.matcher(row);
+            if (makes.find() && !method.equals("\"<init>\"")) {
+                due(makes.group(2).endsWith("Exception"), name + "." + method + " makes a " + makes.group(2));
+            }
             due(!row.contains("invokedynamic"), name + "." + method + " has an invokedynamic");
             if (begins.matches()) {
                 method = begins.group(1).equals(name) ? "\"<init>\"" : begins.group(1);
